@@ -4,12 +4,34 @@ import java.util.Arrays;
 
 /** Makes calls on an object by their names, and prints every one whose answer is not the one that is due. */
 final class Due {
-    private final String about;
+    private static final int MOST_PRINTED = 20;
+    static final String ILLEGAL_ARGUMENT = "throws.java.lang.IllegalArgumentException";
+    static final String ILLEGAL_STATE = "throws.java.lang.IllegalStateException";
+    static final String NO_SUCH_ELEMENT = "throws.java.util.NoSuchElementException";
+
+    private final String all;
+    private String about;
     private int asked = 0;
     private int wrong = 0;
+    private int printed = 0;
 
     Due(String about) {
         this.about = about;
+        this.all = about;
+    }
+
+    /** One test by its own name: it fails by itself, and the others run all the same. */
+    void test(String sentence, Runnable test) {
+        int wrongBefore = wrong;
+        about = sentence;
+        printed = 0;
+        try {
+            test.run();
+        } catch (RuntimeException e) {
+            wrong(": ended by " + e);
+        }
+        System.out.println((wrong == wrongBefore ? "  holds: " : "  BROKEN: ") + sentence);
+        about = all;
     }
 
     void is(Object x, int want, String name, int... args) {
@@ -17,15 +39,22 @@ final class Due {
     }
 
     void illegalArgument(Object x, String name, int... args) {
-        outcomeIs(x, "throws.java.lang.IllegalArgumentException", name, args);
+        outcomeIs(x, ILLEGAL_ARGUMENT, name, args);
     }
 
     void illegalState(Object x, String name, int... args) {
-        outcomeIs(x, "throws.java.lang.IllegalStateException", name, args);
+        outcomeIs(x, ILLEGAL_STATE, name, args);
     }
 
     void noSuchElement(Object x, String name, int... args) {
-        outcomeIs(x, "throws.java.util.NoSuchElementException", name, args);
+        outcomeIs(x, NO_SUCH_ELEMENT, name, args);
+    }
+
+    /** The call throws so, and an object that it was made on goes on as one that it was not made on. */
+    void refuses(Scene scene, String exception, String name, int... args) {
+        LevelTree x = scene.make();
+        outcomeIs(x, exception, name, args);
+        same(scene + " after the refused " + name + Arrays.toString(args), Portrait.of(x), Portrait.of(scene.make()));
     }
 
     void outcomeIs(Object x, String want, String name, int... args) {
@@ -35,13 +64,21 @@ final class Due {
     void same(String what, String got, String want) {
         asked++;
         if (!got.equals(want)) {
-            wrong++;
-            System.out.println(about + ": " + what + " answered " + got + ", due is " + want);
+            wrong(": " + what + " answered " + got + ", due is " + want);
+        }
+    }
+
+    private void wrong(String what) {
+        wrong++;
+        printed++;
+        // A test that is broken everywhere would fill the log.
+        if (printed <= MOST_PRINTED) {
+            System.out.println(about + what);
         }
     }
 
     void end() {
-        System.out.println(about + ": " + asked + " asked, " + wrong + " not as due");
+        System.out.println(all + ": " + asked + " asked, " + wrong + " not as due");
         if (wrong != 0) {
             System.exit(1);
         }

@@ -1,4 +1,4 @@
-/** Each promise by itself: ordinary inputs, the edges that the document names, and wrong inputs. */
+/** Each promise by itself, by a few calls of all kinds; its boundary cases have tests of their own elsewhere. */
 public final class PromisesTest {
     private static final int MIN = Integer.MIN_VALUE;
     private static final int MAX = Integer.MAX_VALUE;
@@ -8,7 +8,6 @@ public final class PromisesTest {
         due = new Due("the promises");
         newObject();
         add();
-        addWithoutRoom();
         cut();
         build();
         at();
@@ -18,24 +17,10 @@ public final class PromisesTest {
         below();
         different();
         number();
-        numberOfAnOlderTree();
         before();
         most();
         count();
-        wrongParts();
-        whichExceptionComesFirst();
-        throwingChangesNothing();
         due.end();
-    }
-
-    /** 7 2 7 511 0 2 7 0 300, built. */
-    private static LevelTree sample() {
-        LevelTree x = new LevelTree();
-        x.add(7, 2, 7);
-        x.add(511, 0, 2);
-        x.add(7, 0, 300);
-        x.build();
-        return x;
     }
 
     /** Promise 1. */
@@ -74,30 +59,9 @@ public final class PromisesTest {
         }
     }
 
-    /** Promise 2: the room ends at 4,000. The document leaves so late a call free; the program keeps to it all the same. */
-    private static void addWithoutRoom() {
-        LevelTree x = new LevelTree();
-        for (int length = 3; length <= 3999; length += 3) {
-            due.is(x, length, "add", length, length, length);
-        }
-        due.illegalState(x, "add", 1, 2, 3);
-        due.is(x, 3999, "count", 0);
-        due.is(x, 3998, "cut", 3998);
-        due.illegalState(x, "add", 1, 2, 3);
-        due.is(x, 3997, "cut", 3997);
-        due.is(x, 4000, "add", 1, 2, 3);
-        due.illegalState(x, "add", 1, 2, 3);
-        due.is(x, 4000, "build");
-        due.is(x, 3, "at", 3999);
-        due.noSuchElement(x, "at", 4000);
-        due.is(x, 3, "below", 4, 3997, 4000);
-        due.is(x, 0, "often", 1, 4000, 4000);
-        due.illegalArgument(x, "often", 1, 0, 4001);
-    }
-
     /** Promise 3. */
     private static void cut() {
-        LevelTree x = sample();
+        LevelTree x = Scene.builtSample();
         due.illegalArgument(x, "cut", 10);
         due.illegalArgument(x, "cut", -1);
         due.illegalArgument(x, "cut", MIN);
@@ -121,7 +85,7 @@ public final class PromisesTest {
 
     /** Promise 4. */
     private static void build() {
-        LevelTree x = sample();
+        LevelTree x = Scene.builtSample();
         due.is(x, 9, "build");
         due.is(x, 12, "add", 7, 7, 7);
         due.is(x, 9, "count", 1);
@@ -142,7 +106,7 @@ public final class PromisesTest {
 
     /** Promise 5. */
     private static void at() {
-        LevelTree x = sample();
+        LevelTree x = Scene.builtSample();
         int[] want = {7, 2, 7, 511, 0, 2, 7, 0, 300};
         for (int i = 0; i < want.length; i++) {
             due.is(x, want[i], "at", i);
@@ -155,7 +119,7 @@ public final class PromisesTest {
 
     /** Promise 6. */
     private static void often() {
-        LevelTree x = sample();
+        LevelTree x = Scene.builtSample();
         due.is(x, 3, "often", 7, 0, 9);
         due.is(x, 2, "often", 7, 1, 7);
         due.is(x, 1, "often", 511, 3, 4);
@@ -172,7 +136,7 @@ public final class PromisesTest {
 
     /** Promise 7. */
     private static void place() {
-        LevelTree x = sample();
+        LevelTree x = Scene.builtSample();
         due.is(x, 0, "place", 7, 0);
         due.is(x, 2, "place", 7, 1);
         due.is(x, 6, "place", 7, 2);
@@ -192,7 +156,7 @@ public final class PromisesTest {
 
     /** Promise 8. */
     private static void least() {
-        LevelTree x = sample();
+        LevelTree x = Scene.builtSample();
         int[] want = {0, 0, 2, 2, 7, 7, 7, 300, 511};
         for (int k = 0; k < want.length; k++) {
             due.is(x, want[k], "least", 0, 9, k);
@@ -209,7 +173,7 @@ public final class PromisesTest {
 
     /** Promise 9. */
     private static void below() {
-        LevelTree x = sample();
+        LevelTree x = Scene.builtSample();
         due.is(x, 0, "below", 0, 0, 9);
         due.is(x, 2, "below", 1, 0, 9);
         due.is(x, 4, "below", 7, 0, 9);
@@ -227,7 +191,7 @@ public final class PromisesTest {
 
     /** Promise 10. */
     private static void different() {
-        LevelTree x = sample();
+        LevelTree x = Scene.builtSample();
         due.is(x, 5, "different", 0, 9);
         due.is(x, 2, "different", 0, 3);
         due.is(x, 1, "different", 3, 4);
@@ -245,7 +209,7 @@ public final class PromisesTest {
 
     /** Promise 11. */
     private static void number() {
-        LevelTree x = sample();
+        LevelTree x = Scene.builtSample();
         due.noSuchElement(x, "number", 0);
         x.different(0, 9);
         due.is(x, 2, "number", 0);
@@ -265,29 +229,9 @@ public final class PromisesTest {
         due.noSuchElement(x, "number", 0);
     }
 
-    /** Promise 11: the tree as it was then, and no other question in between counts. */
-    private static void numberOfAnOlderTree() {
-        LevelTree x = sample();
-        x.different(0, 3);
-        due.illegalArgument(x, "different", 0, 10);
-        due.illegalArgument(x, "different", -1, 3);
-        x.most(3, 9);
-        x.least(3, 9, 0);
-        x.before(511, 3, 9);
-        x.cut(0);
-        x.add(100, 101, 102);
-        x.build();
-        x.often(100, 0, 3);
-        due.is(x, 2 * 4096 + 1, "number", 0);
-        due.is(x, 7 * 4096 + 2, "number", 1);
-        due.noSuchElement(x, "number", 2);
-        x.different(0, 3);
-        due.is(x, 102 * 4096 + 1, "number", 2);
-    }
-
     /** Promise 12. */
     private static void before() {
-        LevelTree x = sample();
+        LevelTree x = Scene.builtSample();
         due.is(x, 0, "before", 0, 0, 9);
         due.is(x, 0, "before", 1, 0, 9);
         due.is(x, 2, "before", 2, 0, 9);
@@ -305,7 +249,7 @@ public final class PromisesTest {
 
     /** Promise 13. */
     private static void most() {
-        LevelTree x = sample();
+        LevelTree x = Scene.builtSample();
         due.is(x, 7, "most", 0, 9);
         due.is(x, 2, "most", 0, 2);
         due.is(x, 0, "most", 3, 9);
@@ -316,7 +260,7 @@ public final class PromisesTest {
 
     /** Promise 14. */
     private static void count() {
-        LevelTree x = sample();
+        LevelTree x = Scene.builtSample();
         x.add(1, 1, 1);
         due.is(x, 12, "count", 0);
         due.is(x, 9, "count", 1);
@@ -324,47 +268,5 @@ public final class PromisesTest {
         due.is(x, -1, "count", -1);
         due.is(x, -1, "count", MIN);
         due.is(x, -1, "count", MAX);
-    }
-
-    /** Terms: what is no part is an IllegalArgumentException for every question about a part. */
-    private static void wrongParts() {
-        int[][] parts = {{-1, 3}, {3, 2}, {0, 10}, {10, 10}, {-1, -1}, {MIN, MAX}, {MAX, MIN}, {0, MAX}, {MIN, 0}};
-        LevelTree x = sample();
-        for (int[] part : parts) {
-            due.illegalArgument(x, "often", 7, part[0], part[1]);
-            due.illegalArgument(x, "least", part[0], part[1], 0);
-            due.illegalArgument(x, "below", 7, part[0], part[1]);
-            due.illegalArgument(x, "different", part[0], part[1]);
-            due.illegalArgument(x, "before", 7, part[0], part[1]);
-            due.illegalArgument(x, "most", part[0], part[1]);
-        }
-    }
-
-    /** Terms: of several exceptions the one that a call names first. */
-    private static void whichExceptionComesFirst() {
-        LevelTree x = sample();
-        due.illegalArgument(x, "place", 512, -1);
-        due.illegalArgument(x, "place", -1, 100);
-        due.illegalArgument(x, "least", 0, 10, -1);
-        due.illegalArgument(x, "least", 5, 4, 100);
-    }
-
-    /** Terms: a call that throws changes nothing. */
-    private static void throwingChangesNothing() {
-        LevelTree x = sample();
-        x.different(0, 3);
-        x.add(1, 2, 3);
-        due.illegalArgument(x, "cut", 13);
-        due.illegalArgument(x, "cut", -1);
-        due.illegalArgument(x, "different", 3, 10);
-        due.illegalArgument(x, "most", 3, 10);
-        due.noSuchElement(x, "number", 2);
-        due.noSuchElement(x, "at", 9);
-        due.is(x, 12, "count", 0);
-        due.is(x, 9, "count", 1);
-        due.is(x, 2 * 4096 + 1, "number", 0);
-        due.is(x, 7 * 4096 + 2, "number", 1);
-        due.is(x, 7, "at", 0);
-        due.is(x, 300, "at", 8);
     }
 }
