@@ -50,11 +50,17 @@ final class Due {
         outcomeIs(x, NO_SUCH_ELEMENT, name, args);
     }
 
-    /** The call throws so, and an object that it was made on goes on as one that it was not made on. */
+    /** The call throws so, and changes nothing. */
     void refuses(Scene scene, String exception, String name, int... args) {
         LevelTree x = scene.make();
         outcomeIs(x, exception, name, args);
-        same(scene + " after the refused " + name + Arrays.toString(args), Portrait.of(x), Portrait.of(scene.make()));
+        isStill(scene, x, "the refused " + name + Arrays.toString(args));
+    }
+
+    /** The object goes on as one to which this did not happen. */
+    void isStill(Scene scene, LevelTree x, String after) {
+        int kinds = scene.groups.length;
+        same(scene + " after " + after, Portrait.of(x, kinds), Portrait.of(scene.make(), kinds));
     }
 
     void outcomeIs(Object x, String want, String name, int... args) {

@@ -1,4 +1,7 @@
-/** All that an object tells of itself now and after its next changes, in fewer than 200 calls. */
+/**
+ * All that an object tells of itself now and after its next changes, in fewer than 200 calls. No call
+ * of it is a refused one: what a refused call had spoiled would be spoiled in every portrait alike.
+ */
 final class Portrait {
     private final LevelTree x;
     private final StringBuilder text = new StringBuilder();
@@ -7,33 +10,36 @@ final class Portrait {
         this.x = x;
     }
 
-    static String of(LevelTree x) {
+    /** The kinds are how many numbers the latest part has that different was asked about. */
+    static String of(LevelTree x, int kinds) {
         Portrait portrait = new Portrait(x);
-        portrait.askAll();
+        portrait.askAll(kinds);
         // What stands in the row shows only when it goes on and is built.
         portrait.ask("add", 33, 34, 35);
         portrait.ask("build");
-        portrait.askAll();
+        portrait.askAll(kinds);
         portrait.ask("different", 0, x.count(1));
-        portrait.askAll();
+        portrait.askAll(x.different(0, x.count(1)));
         portrait.ask("cut", x.count(0) - 1);
         portrait.ask("count", 0);
         return portrait.text.toString();
     }
 
-    private void askAll() {
+    private void askAll(int kinds) {
         int length = x.count(1);
         ask("count", 0);
         ask("count", 1);
-        for (int place = -1; place <= length; place++) {
-            ask("at", place);
-        }
-        for (int i = -1; i <= 9; i++) {
+        for (int i = 0; i < kinds; i++) {
             ask("number", i);
         }
-        for (int k = 0; k < 5; k++) {
-            ask("place", 7, k);
+        for (int place = 0; place < length; place++) {
+            ask("at", place);
+        }
+        for (int k = 0; k < length; k += 2) {
             ask("least", 0, length, k);
+        }
+        for (int k = 0; k < x.often(7, 0, length); k++) {
+            ask("place", 7, k);
         }
         askPart(0, length);
         askPart(length / 3, length - length / 3);

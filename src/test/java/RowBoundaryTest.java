@@ -21,6 +21,7 @@ public final class RowBoundaryTest {
         due.test("promise 3: its length is THE ROW's, not the TREE's", RowBoundaryTest::cutGoesByTheRow);
         due.test("promise 4: THE ROW is empty", RowBoundaryTest::buildEmpty);
         due.test("promise 4: THE ROW is as it was", RowBoundaryTest::buildTwice);
+        due.test("promise 4: as THE ROW is now, as long as before", RowBoundaryTest::buildAsLong);
         due.test("promise 4: as THE ROW is now, shorter than before", RowBoundaryTest::buildShorter);
         due.test("promise 4: as THE ROW is now, longer than before", RowBoundaryTest::buildLonger);
         due.test("promise 14: 0 and 1", RowBoundaryTest::countOfRowAndTree);
@@ -62,6 +63,8 @@ public final class RowBoundaryTest {
         due.is(first, 9, "count", 0);
         due.is(first, 7, "at", 0);
         due.is(first, 2, "number", 0);
+        due.is(first, 9, "build");
+        numbersAre(first, Scene.sample());
     }
 
     private static void lowNineBits() {
@@ -193,9 +196,7 @@ public final class RowBoundaryTest {
                 LevelTree x = scene.make();
                 x.cut(n);
                 due.is(x, scene.tree.length, "count", 1);
-                for (int place = 0; place < scene.tree.length; place++) {
-                    due.is(x, scene.tree[place], "at", place);
-                }
+                numbersAre(x, scene.tree);
                 for (int i = 0; i < scene.groups.length; i++) {
                     due.is(x, scene.groups[i], "number", i);
                 }
@@ -270,13 +271,37 @@ public final class RowBoundaryTest {
     private static void buildTwice() {
         for (Scene scene : Scene.values()) {
             LevelTree x = scene.make();
-            LevelTree once = scene.make();
             due.is(x, scene.row.length, "build");
             due.is(x, scene.row.length, "build");
             due.is(x, scene.row.length, "build");
-            due.is(once, scene.row.length, "build");
-            due.same(scene + " built thrice", Portrait.of(x), Portrait.of(once));
+            numbersAre(x, scene.row);
+            for (int i = 0; i < scene.groups.length; i++) {
+                due.is(x, scene.groups[i], "number", i);
+            }
         }
+    }
+
+    private static void numbersAre(LevelTree x, int... want) {
+        for (int place = 0; place < want.length; place++) {
+            due.is(x, want[place], "at", place);
+        }
+        due.noSuchElement(x, "at", want.length);
+    }
+
+    private static void buildAsLong() {
+        LevelTree x = Scene.BUILT.make();
+        x.cut(6);
+        x.add(1, 2, 3);
+        due.is(x, 300, "at", 8);
+        due.is(x, 9, "build");
+        numbersAre(x, 7, 2, 7, 511, 0, 2, 1, 2, 3);
+        x.cut(0);
+        x.add(10, 11, 12);
+        x.add(13, 14, 15);
+        x.add(16, 17, 18);
+        due.is(x, 2, "at", 7);
+        due.is(x, 9, "build");
+        numbersAre(x, 10, 11, 12, 13, 14, 15, 16, 17, 18);
     }
 
     /** What was there before must not shine through, wherever the new end lies in the words of a level. */
@@ -348,7 +373,7 @@ public final class RowBoundaryTest {
             for (int what : new int[] {-1, 2, -2, 3, 4, 9, 256, 257, 512, 65536, MIN, MIN + 1, MAX - 1, MAX}) {
                 due.is(x, -1, "count", what);
             }
-            due.same(scene + " after the counts of nothing", Portrait.of(x), Portrait.of(scene.make()));
+            due.isStill(scene, x, "the counts of nothing");
         }
     }
 }

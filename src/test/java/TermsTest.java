@@ -292,7 +292,7 @@ public final class TermsTest {
         for (Scene scene : Scene.values()) {
             LevelTree x = scene.make();
             allRefused(x, scene);
-            due.same(scene + " after all refused calls", Portrait.of(x), Portrait.of(scene.make()));
+            due.isStill(scene, x, "all refused calls");
         }
     }
 
