@@ -25,12 +25,16 @@ public final class FaceTest {
 
     public static void main(String[] args) {
         Due due = new Due("the face");
-        due.same("the class", Modifier.toString(LevelTree.class.getModifiers()), "public final");
+        due.same("the class", LevelTree.class.toGenericString(), "public final class LevelTree");
+        due.same("its package", LevelTree.class.getPackageName(), "");
+        due.same("what it extends", LevelTree.class.getSuperclass().getName(), "java.lang.Object");
+        due.same("what it implements", Arrays.toString(LevelTree.class.getInterfaces()), "[]");
         due.same("its constructors", constructors().toString(), "[public LevelTree()]");
         due.same("its methods", visibleMethods().toString(), new TreeSet<>(Arrays.asList(METHODS)).toString());
         due.same("private methods with a public one's name", doubledNames().toString(), "[]");
         due.same("fields that can be seen", visibleFields().toString(), "[]");
-        due.same("static fields that are not final", changingStatics().toString(), "[]");
+        due.same("classes inside that are open or not static", strayClasses(LevelTree.class).toString(), "[]");
+        due.same("static fields that are not final", changingStatics(LevelTree.class).toString(), "[]");
         due.end();
     }
 
@@ -72,13 +76,28 @@ public final class FaceTest {
         return found;
     }
 
-    private static TreeSet<String> changingStatics() {
+    private static TreeSet<String> strayClasses(Class<?> outer) {
         TreeSet<String> found = new TreeSet<>();
-        for (Field field : LevelTree.class.getDeclaredFields()) {
+        for (Class<?> inner : outer.getDeclaredClasses()) {
+            int modifiers = inner.getModifiers();
+            if (Modifier.isPublic(modifiers) || Modifier.isProtected(modifiers) || !Modifier.isStatic(modifiers)) {
+                found.add(inner.getName());
+            }
+            found.addAll(strayClasses(inner));
+        }
+        return found;
+    }
+
+    private static TreeSet<String> changingStatics(Class<?> outer) {
+        TreeSet<String> found = new TreeSet<>();
+        for (Field field : outer.getDeclaredFields()) {
             int modifiers = field.getModifiers();
             if (Modifier.isStatic(modifiers) && !Modifier.isFinal(modifiers)) {
                 found.add(field.toString());
             }
+        }
+        for (Class<?> inner : outer.getDeclaredClasses()) {
+            found.addAll(changingStatics(inner));
         }
         return found;
     }

@@ -11,8 +11,6 @@ public final class RowBoundaryTest {
         due.test("promise 2: the low 9 bits of what is given", RowBoundaryTest::lowNineBits);
         due.test("promise 2: at the end of THE ROW: its length", RowBoundaryTest::endOfTheRow);
         due.test("promise 2: there is room for all that 512 calls bring", RowBoundaryTest::roomForAllCalls);
-        due.test("promise 2: there is room for three", RowBoundaryTest::roomForThree);
-        due.test("promise 2: there is no room for three", RowBoundaryTest::noRoomForThree);
         due.test("promise 3: n is 0 .. its length", RowBoundaryTest::cutWithin);
         due.test("promise 3: THE ROW keeps its first n numbers", RowBoundaryTest::cutKeepsTheFirst);
         due.test("promise 3: the TREE stays", RowBoundaryTest::cutLeavesTheTree);
@@ -116,49 +114,6 @@ public final class RowBoundaryTest {
         for (int length = 3; length <= 1536; length += 3) {
             due.is(x, length, "add", length, length + 1, length + 2);
         }
-    }
-
-    /** So long a row needs more than 512 calls, which the document leaves free: the program keeps to it all the same. */
-    private static void roomForThree() {
-        LevelTree x = rowOf(3996);
-        due.is(x, 3999, "add", 1, 2, 3);
-        LevelTree y = rowOf(3997);
-        due.is(y, 4000, "add", 1, 2, 3);
-        due.is(y, 4000, "build");
-        due.is(y, 1, "at", 3997);
-        due.is(y, 3, "at", 3999);
-    }
-
-    /** As above. */
-    private static void noRoomForThree() {
-        for (int length = 3998; length <= 4000; length++) {
-            LevelTree x = length == 4000 ? rowOf(3997) : rowOf(length);
-            if (length == 4000) {
-                x.add(5, 5, 5);
-            }
-            due.illegalState(x, "add", 1, 2, 3);
-            due.illegalState(x, "add", MIN, MAX, -1);
-            due.is(x, length, "count", 0);
-            due.is(x, 9, "count", 1);
-            due.is(x, 2 * 4096 + 1, "number", 0);
-            due.is(x, length, "build");
-            due.is(x, length - 9, "often", 5, 0, length);
-            due.is(x, 5, "at", length - 1);
-            due.noSuchElement(x, "at", length);
-            due.is(x, 3997, "cut", 3997);
-            due.is(x, 4000, "add", 1, 2, 3);
-        }
-    }
-
-    /** Not built behind the ninth number; the rest are fives. */
-    private static LevelTree rowOf(int length) {
-        LevelTree x = Scene.builtSample();
-        x.different(0, 3);
-        for (int i = 9; i < 3999; i += 3) {
-            x.add(5, 5, 5);
-        }
-        x.cut(length);
-        return x;
     }
 
     private static void cutWithin() {

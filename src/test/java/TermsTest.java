@@ -8,10 +8,10 @@ public final class TermsTest {
         due.test("the scenes of these tests are what they tell", TermsTest::scenes);
         due.test("THE ROW: numbers 0 .. 511", TermsTest::everyNumber);
         due.test("THE ROW: at PLACES from 0", TermsTest::placesFromZero);
-        due.test("THE ROW: at most 4,000", TermsTest::atMostFourThousand);
         due.test("the TREE is empty before the first build", TermsTest::emptyBeforeTheFirstBuild);
         due.test("the TREE is of THE ROW as it was at the latest build", TermsTest::latestBuild);
         due.test("all questions are about the TREE", TermsTest::questionsAreAboutTheTree);
+        due.test("a question changes neither THE ROW nor the TREE", TermsTest::questionsChangeNothing);
         due.test("a PART: the edges that it may have", TermsTest::partsWithinTheEdges);
         due.test("a PART: from and to may be equal at every PLACE", TermsTest::emptyParts);
         due.test("a PART: not 0 <= from", TermsTest::partFromBelowZero);
@@ -29,17 +29,20 @@ public final class TermsTest {
 
     private static void scenes() {
         for (Scene scene : Scene.values()) {
-            LevelTree x = scene.make();
-            due.is(x, scene.row.length, "count", 0);
-            due.is(x, scene.tree.length, "count", 1);
-            numbersAre(x, scene.tree);
-            for (int i = 0; i < scene.groups.length; i++) {
-                due.is(x, scene.groups[i], "number", i);
-            }
-            due.noSuchElement(x, "number", scene.groups.length);
-            due.is(x, scene.row.length, "build");
-            numbersAre(x, scene.row);
+            isAsTold(scene.make(), scene);
         }
+    }
+
+    private static void isAsTold(LevelTree x, Scene scene) {
+        due.is(x, scene.row.length, "count", 0);
+        due.is(x, scene.tree.length, "count", 1);
+        numbersAre(x, scene.tree);
+        for (int i = 0; i < scene.groups.length; i++) {
+            due.is(x, scene.groups[i], "number", i);
+        }
+        due.noSuchElement(x, "number", scene.groups.length);
+        due.is(x, scene.row.length, "build");
+        numbersAre(x, scene.row);
     }
 
     private static void numbersAre(LevelTree x, int[] want) {
@@ -76,31 +79,6 @@ public final class TermsTest {
         due.is(x, 2, "place", 13, 0);
         due.is(x, 1, "often", 11, 0, 1);
         due.is(x, 0, "often", 11, 1, 3);
-    }
-
-    /** So long a row needs more than 512 calls, which the document leaves free: the program keeps to it all the same. */
-    private static void atMostFourThousand() {
-        LevelTree x = new LevelTree();
-        for (int i = 0; i < 1333; i++) {
-            x.add(5, 511, 0);
-        }
-        x.cut(3997);
-        due.is(x, 4000, "add", 7, 8, 9);
-        due.illegalState(x, "add", 7, 8, 9);
-        due.is(x, 4000, "build");
-        due.is(x, 4000, "count", 1);
-        due.is(x, 9, "at", 3999);
-        due.noSuchElement(x, "at", 4000);
-        due.is(x, 3999, "place", 9, 0);
-        due.is(x, 1333, "often", 5, 0, 4000);
-        due.is(x, 1332, "often", 511, 0, 4000);
-        due.is(x, 4000, "below", 512, 0, 4000);
-        due.is(x, 511, "least", 0, 4000, 3999);
-        due.is(x, 0, "often", 9, 4000, 4000);
-        due.illegalArgument(x, "often", 9, 0, 4001);
-        due.is(x, 6, "different", 0, 4000);
-        due.is(x, 511 * 4096 + 1332, "number", 5);
-        due.is(x, 5, "most", 0, 4000);
     }
 
     private static void emptyBeforeTheFirstBuild() {
@@ -148,6 +126,40 @@ public final class TermsTest {
             partAnswers(x, 0, 9, 3, 0, 4, 5, 2, 7);
             refusesThePart(scene, 0, 10);
         }
+    }
+
+    /** Nothing is promised beyond the answers and changes described, and of the questions only different has one. */
+    private static void questionsChangeNothing() {
+        for (Scene scene : Scene.values()) {
+            int length = scene.tree.length;
+            staysAfter(scene, "often", 7, 0, length);
+            staysAfter(scene, "below", 300, 0, length);
+            staysAfter(scene, "before", 511, 0, length);
+            staysAfter(scene, "most", 0, length);
+            staysAfter(scene, "count", 0);
+            staysAfter(scene, "count", 1);
+            for (int place = 0; place < length; place++) {
+                staysAfter(scene, "at", place);
+                staysAfter(scene, "place", scene.tree[place], 0);
+                staysAfter(scene, "least", 0, length, place);
+            }
+            for (int i = 0; i < scene.groups.length; i++) {
+                staysAfter(scene, "number", i);
+            }
+        }
+        LevelTree x = Scene.ROW_SHORTER.make();
+        due.is(x, 5, "different", 0, 9);
+        numbersAre(x, Scene.ROW_SHORTER.tree);
+        due.is(x, 4, "count", 0);
+        due.is(x, 4, "build");
+        numbersAre(x, Scene.ROW_SHORTER.row);
+    }
+
+    private static void staysAfter(Scene scene, String question, int... args) {
+        LevelTree x = scene.make();
+        // Asked twice, it answers the same.
+        due.outcomeIs(x, Due.outcome(x, question, args), question, args);
+        isAsTold(x, scene);
     }
 
     private static void partsWithinTheEdges() {
