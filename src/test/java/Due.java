@@ -27,7 +27,7 @@ final class Due {
         printed = 0;
         try {
             test.run();
-        } catch (RuntimeException e) {
+        } catch (RuntimeException | Error e) {
             wrong(": ended by " + e);
         }
         System.out.println((wrong == wrongBefore ? "  holds: " : "  BROKEN: ") + sentence);

@@ -42,6 +42,7 @@ public final class QuestionBoundaryTest {
         due.test("promise 12: another one", QuestionBoundaryTest::beforeNoNumber);
         due.test("promise 13: of several the least", QuestionBoundaryTest::mostOfSeveral);
         due.test("promise 13: most often by one", QuestionBoundaryTest::mostByOne);
+        due.test("promise 13: most often of all 512 numbers", QuestionBoundaryTest::mostOfAllNumbers);
         due.test("promise 13: -1 if it is empty", QuestionBoundaryTest::mostOfAnEmptyPart);
         due.end();
     }
@@ -558,6 +559,19 @@ public final class QuestionBoundaryTest {
         due.is(x, 300, "most", 1, 300);
         due.is(x, 511, "most", 2, 300);
         due.is(x, 300, "most", 299, 301);
+    }
+
+    /** Each number in its turn, the last one too: it comes when 511 others have been counted. */
+    private static void mostOfAllNumbers() {
+        for (int number = 1; number < 512; number++) {
+            LevelTree x = all512();
+            x.add(number, number, number);
+            x.build();
+            due.is(x, 0, "most", 0, 513);
+            due.is(x, 0, "most", 0, 514);
+            due.is(x, number, "most", 1, 514);
+            due.is(x, number, "most", 0, 515);
+        }
     }
 
     private static void mostOfAnEmptyPart() {

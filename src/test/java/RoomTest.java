@@ -13,6 +13,7 @@ public final class RoomTest {
         due.test("beyond the 512th call, THE ROW: at most 4,000", RoomTest::atMostFourThousand);
         due.test("beyond the 512th call, promise 2: there is room for three", RoomTest::roomForThree);
         due.test("beyond the 512th call, promise 2: there is no room for three", RoomTest::noRoomForThree);
+        due.test("beyond the 512th call, a full row of one number", RoomTest::oneNumber);
         due.test("beyond the 512th call, a full row is as the model's", RoomTest::fullRow);
         due.end();
     }
@@ -80,6 +81,30 @@ public final class RoomTest {
         }
         x.cut(length);
         return x;
+    }
+
+    private static void oneNumber() {
+        for (int number : new int[] {0, 1, 255, 256, 511}) {
+            LevelTree x = new LevelTree();
+            for (int i = 0; i < 1333; i++) {
+                x.add(number, number, number);
+            }
+            x.cut(3997);
+            x.add(number, number, number);
+            due.is(x, 4000, "build");
+            due.is(x, number, "at", 3999);
+            due.is(x, 4000, "often", number, 0, 4000);
+            due.is(x, 3999, "place", number, 3999);
+            due.noSuchElement(x, "place", number, 4000);
+            due.is(x, number, "least", 0, 4000, 0);
+            due.is(x, number, "least", 0, 4000, 3999);
+            due.is(x, 0, "below", number, 0, 4000);
+            due.is(x, 4000, "below", number + 1, 0, 4000);
+            due.is(x, 1, "different", 0, 4000);
+            due.is(x, number * 4096 + 4000, "number", 0);
+            due.is(x, number, "before", number, 0, 4000);
+            due.is(x, number, "most", 0, 4000);
+        }
     }
 
     private static void fullRow() {
